@@ -807,13 +807,19 @@ public final class LiabilityMatcher {
         private boolean bringPivot(int k) {
             for (int i = k; i < size; i++) {
                 if (rows[i][k] != 0) {
-                    long[] row = rows[i];
-                    rows[i] = rows[k];
-                    rows[k] = row;
+                    swapRows(i, k);
                     return true;
                 }
             }
             return false;
+        }
+
+        private void swapRows(int i, int k) {
+            for (int j = 0; i != k && j < 2 * size; j++) {
+                long entry = rows[i][j];
+                rows[i][j] = rows[k][j];
+                rows[k][j] = entry;
+            }
         }
 
         /** The division leaves no rest: what it leaves is again a determinant of the first entries. */
