@@ -115,6 +115,12 @@ public final class BestTest {
         multiplier(x, 1, 1, 3);
         multiplier(x, 2, 1, 3);
         dear(x, 1, 11, 3);
+        LiabilityMatcher z = new LiabilityMatcher();
+        Check.tell(z, "dates 2;pay 1 1;pay 2 3;rate 2 6;bond 2 4 2 1;");
+        // Half a bond is just what is paid: y1 and 3 y2 are 1/2, and y1 is 13/10 y2 at least.
+        cost(z, 1, 2);
+        multiplier(z, 1, 13, 86);
+        multiplier(z, 2, 5, 43);
     }
 
     private static void carried() {
