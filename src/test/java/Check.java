@@ -2,15 +2,21 @@
 final class Check {
     private static int wrong = 0;
     private static int looked = 0;
+    private static String sentence = "";
 
     private Check() {
+    }
+
+    /** The sentence of the document that is looked at from here on: told with each wrong answer. */
+    static void about(String quoted) {
+        sentence = "[" + quoted + "] ";
     }
 
     static void due(String what, long got, long want) {
         looked++;
         if (got != want) {
             wrong++;
-            System.out.println(what + " answered " + got + ", due is " + want);
+            System.out.println(sentence + what + " answered " + got + ", due is " + want);
         }
     }
 
