@@ -15,6 +15,7 @@ public final class ToldEdgeTest {
         callRefused();
         yields();
         drop();
+        theSameAgain();
         Check.finish();
     }
 
@@ -343,5 +344,21 @@ public final class ToldEdgeTest {
             int behind = n;
             Edge.refused("drop " + n + " of " + n, () -> Edge.ofBonds(behind), x -> x.drop(behind), -1);
         }
+    }
+
+    /** Only a call is refused for being so already. */
+    private static void theSameAgain() {
+        Check.about("Promises 2 to 4, 6, 10, 24, 25: true, of the same as before too");
+        LiabilityMatcher x = Edge.some();
+        Check.due("pay", x.pay(3, 200), true);
+        Check.due("rate", x.rate(2, 6), true);
+        Check.due("most", x.most(1, 12), true);
+        Check.due("hold", x.hold(1, 99), true);
+        Check.due("cash", x.cash(77), true);
+        Check.due("end", x.end(Edge.TAPE_OF_SOME.length()), true);
+        Edge.sameWithTape("the same again", x, Edge.some());
+        x = Edge.some();
+        Check.due("dates", x.dates(3), true);
+        Check.due("told anew", x.count(1), 0);
     }
 }
