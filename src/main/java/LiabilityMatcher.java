@@ -404,6 +404,10 @@ public final class LiabilityMatcher {
             return v >= LEAST[role] && v <= greatest(role);
         }
 
+        private boolean isDate(int date) {
+            return date >= 1 && date <= dates && date <= MOST_DATES;
+        }
+
         private int greatest(int role) {
             if (role == DATE) {
                 return dates;
@@ -466,21 +470,21 @@ public final class LiabilityMatcher {
         }
 
         int paidAt(int date) {
-            return fits(DATE, date) ? paid[date] : 0;
+            return isDate(date) ? paid[date] : 0;
         }
 
         void setPaid(int date, int v) {
-            if (fits(DATE, date)) {
+            if (isDate(date)) {
                 paid[date] = v;
             }
         }
 
         int rateAt(int date) {
-            return fits(DATE, date) ? rates[date] : 0;
+            return isDate(date) ? rates[date] : 0;
         }
 
         void setRate(int date, int k) {
-            if (fits(DATE, date)) {
+            if (isDate(date)) {
                 rates[date] = k;
             }
         }

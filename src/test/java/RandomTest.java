@@ -21,10 +21,10 @@ public final class RandomTest {
     }
 
     public static void main(String[] args) {
-        int runs = args.length > 0 ? Integer.parseInt(args[0]) : 360;
+        int runs = args.length > 0 ? Integer.parseInt(args[0]) : 450;
         long first = args.length > 1 ? Long.parseLong(args[1]) : 1;
         for (int i = 0; i < runs; i++) {
-            new RandomTest(first + i, i % 4).go();
+            new RandomTest(first + i, i % 5).go();
         }
         Check.finish();
     }
@@ -49,8 +49,16 @@ public final class RandomTest {
         return n(25) == 0;
     }
 
+    /** Style 4 keeps to the ends of each interval and what is next to them: the numbers grow longest there. */
     private int pick(int low, int high) {
-        return odd() ? ODD[n(ODD.length)] : low + n(high - low + 1);
+        if (odd()) {
+            return ODD[n(ODD.length)];
+        }
+        if (style == 4) {
+            int off = n(4) == 0 && high > low ? 1 : 0;
+            return n(4) == 0 ? low + off : high - off;
+        }
+        return low + n(high - low + 1);
     }
 
     private int date() {
